@@ -200,8 +200,20 @@ public final class PromiseTest {
         nextIs(p, PaneScreen.KEY, 0, 20, 0);
         nextIs(p, PaneScreen.LOST, 0, 0, 0);
         checks.same("line is empty", p.figure(6), 0);
-        p.open(0, 0, 1, 1);
+        p.open(4, 0, 1, 1);
         checks.same("opened again without events", p.figure(6), 0);
+        p.key(40);
+        p.click(0, 0);
+        p.close(1);
+        checks.same("the first of the line is gone too", p.figure(6), 2);
+        nextIs(p, PaneScreen.GOT, 0, 0, 0);
+        nextIs(p, PaneScreen.CLICK, 0, 0, 0);
+        p.key(50);
+        p.open(4, 0, 1, 1);
+        p.key(60);
+        p.close(1);
+        checks.same("the first of the line is another's", p.figure(6), 1);
+        nextIs(p, PaneScreen.KEY, 0, 50, 0);
     }
 
     private static void move() {
@@ -227,6 +239,11 @@ public final class PromiseTest {
         p.flush();
         p.move(0, 50, -50);
         checks.same("nothing of both frames", p.figure(5), 0);
+        int[][] besides = {{-3, 0}, {24, 0}, {0, -2}, {0, 16}};
+        for (int[] place : besides) {
+            p.move(0, place[0], place[1]);
+            checks.same("just beside the screen", p.figure(5), 0);
+        }
         checks.same("order is kept", p.figure(2), 0);
         for (int far : NOT_NEAR) {
             checks.refused(p, "move x " + far, ARGUMENT, () -> p.move(0, far, 0));
@@ -334,6 +351,10 @@ public final class PromiseTest {
         checks.same("fill of nothing", p.fill(0, 0, 0, 0, 4), 0);
         checks.same("fill behind", p.fill(0, 6, 0, 1023, 4), 0);
         checks.same("fill below", p.fill(0, 0, 5, 1023, 4), 0);
+        checks.same("fill farther behind", p.fill(0, 8, 0, 1023, 4), 0);
+        checks.same("fill farther below", p.fill(0, 0, 8, 1023, 4), 0);
+        checks.same("fill farther before", p.fill(0, -40, 0, 1023, 4), 0);
+        checks.same("fill farther above", p.fill(0, 0, -40, 1023, 4), 0);
         checks.same("fill before", p.fill(0, -31, 0, 1023, 4), 0);
         checks.same("fill just before the end", p.fill(0, -30, -30, 1023, 3), 1);
         checks.same("fill at -50", p.fill(0, -50, -50, 1023, 4), 0);
@@ -389,9 +410,11 @@ public final class PromiseTest {
         for (int window : NOT_WINDOWS) {
             checks.refused(p, "pen " + window, ELEMENT, () -> p.pen(window, 0, 0));
         }
+        p.pen(1, 2, 0);
         p.close(1);
         p.open(0, 0, 3, 3);
         checks.same("a new window's pen is at 0, 0", p.line(1, 0, 0, 6), 1);
+        checks.same("not where the closed one's was", p.picture(1, 2, 0), 0);
     }
 
     private static void line() {
@@ -545,6 +568,10 @@ public final class PromiseTest {
         }
         p.plot(0, 5, 8, 9);
         checks.same("seven become one", p.figure(5), 1);
+        joinedFrom(new int[] {3, 3, 4, 9, 8, 5, 5, 12, 12, 6, 7, 7, 6, 6}, 10, 10);
+        joinedFrom(new int[] {7, 7, 4, 9, 8, 5, 5, 12, 12, 6, 3, 3, 6, 6}, 10, 10);
+        joinedFrom(new int[] {6, 6, 4, 9, 8, 5, 5, 8, 8, 6, 3, 7, 12, 12}, 10, 8);
+        joinedFrom(new int[] {6, 6, 4, 9, 8, 5, 5, 8, 12, 12, 5, 7, 3, 3}, 10, 10);
         p.plot(0, 19, 14, 9);
         checks.same("and the list goes on", p.figure(5), 2);
         checks.same("least rectangle of the seven, and one", p.flush(), 11 * 5 + 1);
@@ -574,6 +601,15 @@ public final class PromiseTest {
         r.plot(0, 1, 1, 1);
         checks.same("clipped before it is joined", r.figure(5), 1);
         checks.same("joined and clipped", r.flush(), 4);
+    }
+
+    private static void joinedFrom(int[] cells, int width, int height) {
+        PaneScreen p = withOneWindow();
+        for (int k = 0; k < cells.length; k += 2) {
+            p.plot(0, cells[k], cells[k + 1], 9);
+        }
+        checks.same("seven cells become one rectangle", p.figure(5), 1);
+        checks.same("the least that holds them", p.flush(), width * height);
     }
 
     private static void screen() {
