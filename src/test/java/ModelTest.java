@@ -1,12 +1,14 @@
 import java.util.ArrayList;
 import java.util.NoSuchElementException;
 import java.util.Random;
+import java.util.function.IntBinaryOperator;
 import java.util.function.IntSupplier;
 
 /** Long runs of calls, right and wrong, each answer held against a plain model of the document. */
 public final class ModelTest {
-    private static final int RUNS = 200;
+    private static final int RUNS = 900;
     private static final int CALLS = 512;
+    private static final int CALLS_BEFORE_A_LOOK = 110;
 
     private final Checks checks;
     private final Random random;
@@ -26,10 +28,27 @@ public final class ModelTest {
         checks.finish();
     }
 
+    /** Within the calls of one object there is room for a long run, or for a short one and a look at all cells. */
     private void run(String name) {
         int style = random.nextInt(3);
-        for (int call = 0; call < CALLS && checks.wrong() == 0; call++) {
+        int look = random.nextInt(3);
+        int calls = look == 0 ? CALLS : CALLS_BEFORE_A_LOOK;
+        for (int call = 0; call < calls && checks.wrong() == 0; call++) {
             one(name + ", call " + call, random.nextInt(19), style);
+        }
+        if (look == 1) {
+            both(name + " last flush", screen::flush, model::flush);
+            compareCells(name + " screen", screen::screen, model::screen);
+        } else if (look == 2) {
+            compareCells(name + " at", screen::at, model::at);
+        }
+    }
+
+    private void compareCells(String name, IntBinaryOperator got, IntBinaryOperator want) {
+        for (int y = 0; y < 16; y++) {
+            for (int x = 0; x < 24; x++) {
+                checks.same(name, got.applyAsInt(x, y), want.applyAsInt(x, y));
+            }
         }
     }
 
@@ -76,9 +95,9 @@ public final class ModelTest {
             case 2 -> both(name + " move", () -> done(() -> screen.move(w, a, b)), () -> model.move(w, a, b));
             case 3 -> {
                 boolean front = random.nextBoolean();
-                both(name + " raise", () -> number(screen.raise(w, front)), () -> model.raise(w, front));
+                both(name + " raise", () -> Answer.number(screen.raise(w, front)), () -> model.raise(w, front));
             }
-            case 4 -> both(name + " plot", () -> number(screen.plot(w, a, b, colour)),
+            case 4 -> both(name + " plot", () -> Answer.number(screen.plot(w, a, b, colour)),
                     () -> model.plot(w, a, b, colour));
             case 5 -> {
                 int extent = random.nextBoolean() ? mostly(0, 1023) : among(0, 9) * 32 + among(0, 9);
@@ -92,10 +111,7 @@ public final class ModelTest {
                 int v = random.nextBoolean() ? among(-3, 3) : b;
                 both(name + " scroll", () -> done(() -> screen.scroll(w, u, v)), () -> model.scroll(w, u, v));
             }
-            case 9 -> {
-                both(name + " flush", screen::flush, model::flush);
-                compareScreens(name);
-            }
+            case 9 -> both(name + " flush", screen::flush, model::flush);
             default -> onePlain(name, which);
         }
     }
@@ -113,7 +129,7 @@ public final class ModelTest {
             case 14 -> both(name + " click", () -> screen.click(x, y), () -> model.click(x, y));
             case 15 -> {
                 int code = random.nextInt();
-                both(name + " key", () -> number(screen.key(code)), () -> model.key(code));
+                both(name + " key", () -> Answer.number(screen.key(code)), () -> model.key(code));
             }
             case 16 -> both(name + " next", screen::next, model::next);
             case 17 -> {
@@ -127,37 +143,13 @@ public final class ModelTest {
         }
     }
 
-    private void compareScreens(String name) {
-        for (int y = 0; y < 16; y++) {
-            for (int x = 0; x < 24; x++) {
-                checks.same(name + " screen after flush", screen.screen(x, y), model.screen(x, y));
-                checks.same(name + " at after flush", screen.at(x, y), model.at(x, y));
-            }
-        }
-        for (int k = 0; k <= 8; k++) {
-            checks.same(name + " figure after flush", screen.figure(k), model.figure(k));
-        }
-    }
-
     private void both(String name, IntSupplier got, IntSupplier want) {
-        checks.same(name, answer(got), answer(want));
-    }
-
-    private static String answer(IntSupplier call) {
-        try {
-            return Integer.toString(call.getAsInt());
-        } catch (RuntimeException e) {
-            return e.getClass().getName();
-        }
+        checks.same(name, Answer.of(got), Answer.of(want));
     }
 
     private static int done(Runnable call) {
         call.run();
         return 0;
-    }
-
-    private static int number(boolean answer) {
-        return answer ? 1 : 0;
     }
 
     /** Pictures as maps of their own and damage as sets of cells: nothing here is built as the program is. */
@@ -385,17 +377,33 @@ public final class ModelTest {
 
         int figure(int k) {
             argument(0 <= k && k <= 8);
-            int size = 400;
-            while (size > 0 && !anyStretchIsFree(size)) {
-                size--;
-            }
+            return switch (k) {
+                case 0 -> focus;
+                case 1 -> order.size();
+                case 2 -> order.isEmpty() ? -1 : order.get(0);
+                case 3 -> freeCells();
+                case 4 -> longestFree();
+                case 5 -> damage.size();
+                case 6 -> events.size();
+                case 7 -> dropped;
+                default -> painted;
+            };
+        }
+
+        private int freeCells() {
             int free = 0;
             for (int cell = 0; cell < 400; cell++) {
                 free += stretchIsFree(cell, 1) ? 1 : 0;
             }
-            int[] all = {focus, order.size(), order.isEmpty() ? -1 : order.get(0), free, size, damage.size(),
-                events.size(), dropped, painted};
-            return all[k];
+            return free;
+        }
+
+        private int longestFree() {
+            int size = 400;
+            while (size > 0 && !anyStretchIsFree(size)) {
+                size--;
+            }
+            return size;
         }
 
         private boolean anyStretchIsFree(int size) {
