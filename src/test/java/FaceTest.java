@@ -13,13 +13,47 @@ public final class FaceTest {
 
     public static void main(String[] args) {
         Checks checks = new Checks();
+        checks.about("The public face");
         checks.same("public and final", PaneScreen.class.getModifiers(), Modifier.PUBLIC | Modifier.FINAL);
         checks.same("members", members(), due());
         checks.same("CLICK", PaneScreen.CLICK, 1);
         checks.same("KEY", PaneScreen.KEY, 2);
         checks.same("GOT", PaneScreen.GOT, 3);
         checks.same("LOST", PaneScreen.LOST, 4);
+        noPrivateMethodBearsAPublicName(checks);
+        classesInsideAreStaticAndHidden(checks);
+        staticFieldsAreFinal(checks);
         checks.finish();
+    }
+
+    private static void noPrivateMethodBearsAPublicName(Checks checks) {
+        checks.about("LANGUAGE.md, rule 1: no private method bears the name of a public one");
+        TreeSet<String> publicNames = new TreeSet<>();
+        TreeSet<String> privateNames = new TreeSet<>();
+        for (Method method : PaneScreen.class.getDeclaredMethods()) {
+            (Modifier.isPrivate(method.getModifiers()) ? privateNames : publicNames).add(method.getName());
+        }
+        privateNames.retainAll(publicNames);
+        checks.same("names of both", privateNames.toString(), "[]");
+    }
+
+    private static void classesInsideAreStaticAndHidden(Checks checks) {
+        checks.about("LANGUAGE.md, rule 1: the classes inside are private or package-visible and static");
+        for (Class<?> inside : PaneScreen.class.getDeclaredClasses()) {
+            int modifiers = inside.getModifiers();
+            boolean hidden = !Modifier.isPublic(modifiers) && !Modifier.isProtected(modifiers);
+            checks.same(inside.getSimpleName() + " is hidden", hidden, true);
+            checks.same(inside.getSimpleName() + " is static", Modifier.isStatic(modifiers), true);
+        }
+    }
+
+    private static void staticFieldsAreFinal(Checks checks) {
+        checks.about("LANGUAGE.md, rule 5: static fields are final");
+        for (Field field : PaneScreen.class.getDeclaredFields()) {
+            if (Modifier.isStatic(field.getModifiers())) {
+                checks.same(field.getName(), Modifier.isFinal(field.getModifiers()), true);
+            }
+        }
     }
 
     private static String due() {
