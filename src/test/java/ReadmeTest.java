@@ -71,7 +71,7 @@ public final class ReadmeTest {
                 found++;
             }
             checks.same(line, found < run.size(), true);
-            from = Math.min(found + 1, run.size());
+            from = found < run.size() ? found + 1 : from;
         }
         checks.same("there are none", lines.isEmpty(), false);
     }
